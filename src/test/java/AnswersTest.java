@@ -315,6 +315,9 @@ public final class AnswersTest {
         draughtOf(5, 6, 1, 0, 0);
         draughtOf(0, 0, 1, 0, 0);
         draughtOf(0, 0, 2, 2, 0);
+        // 550 times 20 by 1000 is 11 just so, at both ends.
+        draughtOf(0, 0, 20, 21, -1);
+        draughtOf(11, 11, 20, -1, 21);
     }
 
     private static void draughtOf(int first, int last, int tons, int ahead, int behind) {
@@ -357,6 +360,7 @@ public final class AnswersTest {
             }
         }
         CHECKS.due("NONE and each hour from 0 to 6", seen, 255);
+        twentyAreEnough();
         weldsMatter();
     }
 
@@ -370,6 +374,28 @@ public final class AnswersTest {
             yard.fit(rooms[times % rooms.length], 50);
         }
         return yard;
+    }
+
+    /** A ton and a ton more, until the water of an hour no longer is 20 more. */
+    private static void twentyAreEnough() {
+        Stowfinish yard = loaded(18);
+        boolean isMet = false;
+        boolean isMissed = false;
+        for (int times = 0; times < 150; times++) {
+            int least = Math.max(yard.draught(true), yard.draught(false)) + 20;
+            for (int hour = 1; hour <= 6; hour++) {
+                if (yard.water(hour) == least) {
+                    CHECKS.due("20 more in the hour", yard.firstHour(), hour);
+                    isMet = true;
+                }
+                if (yard.water(hour) == least - 1) {
+                    CHECKS.due("19 more in the hour", yard.firstHour(), hour < 6 ? hour + 1 : Stowfinish.NONE);
+                    isMissed = true;
+                }
+            }
+            yard.fit(5, 1);
+        }
+        CHECKS.holds("both edges were met", isMet && isMissed);
     }
 
     private static void weldsMatter() {

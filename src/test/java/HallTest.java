@@ -53,6 +53,7 @@ public final class HallTest {
     }
 
     private static void hallBoundsJoins() {
+        hallAtFirst();
         Stowfinish yard = new Stowfinish();
         yard.block(0, 3, 0, 100, 0, 8);
         yard.block(4, 6, 0, 100, 0, 8);
@@ -66,6 +67,15 @@ public final class HallTest {
         CHECKS.due("7 frames, 201 tons", yard.join(0, 1, 0), 2);
         yard.hall(1, 1);
         CHECKS.due("a block that is built is not asked", yard.block(0, 11, 1, 200, 0, 8), 3);
+    }
+
+    private static void hallAtFirst() {
+        Stowfinish yard = new Stowfinish();
+        yard.block(0, 2, 0, 150, 0, 8);
+        yard.block(3, 5, 0, 150, 0, 8);
+        CHECKS.wrongState("301 tons at first", yard, () -> yard.join(0, 1, 0));
+        yard.block(3, 5, 0, 149, 0, 8);
+        CHECKS.due("6 frames and 300 tons at first", yard.join(0, 2, 0), 3);
     }
 
     // Promise 3
