@@ -37,7 +37,7 @@ public final class AnswersTest {
 
     // Promises 17 and 18
     private static void blocksAndWeldsAreCounted() {
-        Stowfinish yard = Yards.eager();
+        Yard yard = Yards.eager();
         yard.block(0, 0, 0, 1, 0, 1);
         yard.block(1, 1, 0, 1, 0, 1);
         CHECKS.due("blocks", yard.blocks(), 2);
@@ -58,7 +58,7 @@ public final class AnswersTest {
 
     // Promise 19
     private static void afloatForGood() {
-        Stowfinish yard = Yards.full(10, 10, 10);
+        Yard yard = Yards.full(10, 10, 10);
         CHECKS.holds("not yet", !yard.isAfloat());
         yard.launch(6);
         CHECKS.holds("afloat", yard.isAfloat());
@@ -73,7 +73,7 @@ public final class AnswersTest {
 
     // Promise 20
     private static void whyNotTellsTheFirstReason() {
-        Stowfinish yard = new Stowfinish();
+        Yard yard = new Yard();
         yard.block(0, 0, 0, 10, 0, 8);
         yard.block(2, 2, 0, 10, 0, 8);
         CHECKS.due("it can", yard.whyNot(0), 0);
@@ -107,12 +107,12 @@ public final class AnswersTest {
         CHECKS.due("a part: 1", yard.whyNot(11), 1);
         yard.scrap(14);
         CHECKS.due("a scrapped one: 1", yard.whyNot(14), 1);
-        Stowfinish ship = Yards.afloatWithLoose(1);
+        Yard ship = Yards.afloatWithLoose(1);
         CHECKS.due("afloat: 1", ship.whyNot(ship.blocks() - 1), 1);
     }
 
     private static void whyNotIsRefused() {
-        Stowfinish yard = new Stowfinish();
+        Yard yard = new Yard();
         CHECKS.noSuch("whyNot(0)", yard, () -> yard.whyNot(0));
         yard.block(0, 0, 0, 1, 0, 1);
         CHECKS.noSuch("whyNot(1)", yard, () -> yard.whyNot(1));
@@ -122,7 +122,7 @@ public final class AnswersTest {
 
     // Promise 21
     private static void toldFollowsTheBlock() {
-        Stowfinish yard = Yards.eager();
+        Yard yard = Yards.eager();
         yard.block(2, 3, 0, 14, 6, 3);
         CHECKS.due("loose", yard.told(0, 0), Stowfinish.LOOSE);
         yard.block(4, 4, 0, 5, 0, 2);
@@ -142,7 +142,7 @@ public final class AnswersTest {
     }
 
     private static void toldIsRefused() {
-        Stowfinish yard = new Stowfinish();
+        Yard yard = new Yard();
         yard.block(0, 0, 0, 1, 0, 1);
         CHECKS.noSuch("told(-1, 0)", yard, () -> yard.told(-1, 0));
         CHECKS.noSuch("told(1, 0)", yard, () -> yard.told(1, 0));
@@ -153,7 +153,7 @@ public final class AnswersTest {
 
     // Promise 22
     private static void weldFollowsTheWeld() {
-        Stowfinish yard = Yards.withFlaw(7, 100);
+        Yard yard = Yards.withFlaw(7, 100);
         int[] due = {Stowfinish.UNTESTED, 0, 8, 0};
         for (int what = 0; what < due.length; what++) {
             CHECKS.due("weld(0, " + what + ")", yard.weld(0, what), due[what]);
@@ -175,7 +175,7 @@ public final class AnswersTest {
     }
 
     private static void weldIsRefused() {
-        Stowfinish yard = Yards.withFlaw(0, 0);
+        Yard yard = Yards.withFlaw(0, 0);
         CHECKS.noSuch("weld(-1, 0)", yard, () -> yard.weld(-1, 0));
         CHECKS.noSuch("weld(1, 0)", yard, () -> yard.weld(1, 0));
         CHECKS.noSuch("weld(100, 4)", yard, () -> yard.weld(100, 4));
@@ -185,7 +185,7 @@ public final class AnswersTest {
 
     // Promise 23
     private static void cellFollowsTheCell() {
-        Stowfinish yard = Yards.twoRows();
+        Yard yard = Yards.twoRows();
         CHECKS.due("block of 11", yard.cell(11, 0), 0);
         CHECKS.due("block of 12", yard.cell(12, 0), 1);
         CHECKS.due("block of 24", yard.cell(24, 0), Stowfinish.NONE);
@@ -206,7 +206,7 @@ public final class AnswersTest {
     }
 
     private static void cellIsRefused() {
-        Stowfinish yard = new Stowfinish();
+        Yard yard = new Yard();
         CHECKS.noSuch("cell(-1, 0)", yard, () -> yard.cell(-1, 0));
         CHECKS.noSuch("cell(36, 0)", yard, () -> yard.cell(36, 0));
         CHECKS.noSuch("cell(36, 5)", yard, () -> yard.cell(36, 5));
@@ -216,7 +216,7 @@ public final class AnswersTest {
 
     // Promise 24
     private static void roomAtFollowsThePipe() {
-        Stowfinish yard = Yards.twoRows();
+        Yard yard = Yards.twoRows();
         yard.hole(8, true);
         yard.hole(19, false);
         yard.pipe(8, 19);
@@ -228,7 +228,7 @@ public final class AnswersTest {
     }
 
     private static void roomAtIsRefused() {
-        Stowfinish yard = Yards.twoRows();
+        Yard yard = Yards.twoRows();
         CHECKS.noSuch("roomAt(0, 0)", yard, () -> yard.roomAt(0, 0));
         yard.hole(8, true);
         yard.pipe(8, 20);
@@ -240,7 +240,7 @@ public final class AnswersTest {
 
     // Promise 25
     private static void tonsAreThoseThatStand() {
-        Stowfinish yard = Yards.eager();
+        Yard yard = Yards.eager();
         yard.block(0, 2, 0, 11, 0, 8);
         yard.block(3, 3, 0, 5, 0, 8);
         CHECKS.due("in the hall", yard.tons(), 0);
@@ -260,7 +260,7 @@ public final class AnswersTest {
 
     // Promise 26
     private static void tonsAnewAreTheSame() {
-        Stowfinish yard = Yards.eager();
+        Yard yard = Yards.eager();
         CHECKS.due("none", yard.tonsAnew(), 0);
         yard.erect(yard.block(2, 6, 0, 14, 0, 8), 0);
         CHECKS.due("14 over 5 frames", yard.tonsAnew(), 14);
@@ -278,7 +278,7 @@ public final class AnswersTest {
 
     // Promise 27
     private static void centreIsRoundedDown() {
-        Stowfinish yard = Yards.eager();
+        Yard yard = Yards.eager();
         CHECKS.due("without tons", yard.centre(), 0);
         yard.erect(yard.block(0, 0, 0, 2, 0, 8), 0);
         CHECKS.due("at frame 0", yard.centre(), 0);
@@ -304,7 +304,7 @@ public final class AnswersTest {
 
     // Promise 28
     private static void draughtsAreTrimmed() {
-        Stowfinish none = new Stowfinish();
+        Yard none = new Yard();
         CHECKS.due("nothing, behind", none.draught(true), 0);
         CHECKS.due("nothing, ahead", none.draught(false), 0);
         draughtOf(0, 0, 81, 84, -4);
@@ -321,7 +321,7 @@ public final class AnswersTest {
     }
 
     private static void draughtOf(int first, int last, int tons, int ahead, int behind) {
-        Stowfinish yard = Yards.eager();
+        Yard yard = Yards.eager();
         yard.erect(yard.block(first, last, 0, tons, 0, 8), 0);
         CHECKS.due("ahead with " + tons + " from " + first + " to " + last, yard.draught(false), ahead);
         CHECKS.due("behind with " + tons + " from " + first + " to " + last, yard.draught(true), behind);
@@ -329,7 +329,7 @@ public final class AnswersTest {
 
     // Promise 29
     private static void waterFollowsTheTide() {
-        Stowfinish yard = new Stowfinish();
+        Yard yard = new Yard();
         int[] tide = {600, 630, 660, 690, 720, 750, 780, 750, 720, 690, 660, 630};
         for (int hour = 0; hour <= 1000; hour++) {
             CHECKS.due("water(" + hour + ")", yard.water(hour), tide[hour % 12]);
@@ -340,11 +340,11 @@ public final class AnswersTest {
 
     // Promise 30
     private static void firstHourIsTheFirst() {
-        Stowfinish none = new Stowfinish();
+        Yard none = new Yard();
         CHECKS.due("nothing stands", none.firstHour(), Stowfinish.NONE);
         int seen = 0;
         for (int things = 0; things <= 28; things++) {
-            Stowfinish yard = loaded(things);
+            Yard yard = loaded(things);
             int draught = Math.max(yard.draught(true), yard.draught(false));
             int due = Stowfinish.NONE;
             for (int hour = 6; hour >= 0; hour--) {
@@ -364,8 +364,8 @@ public final class AnswersTest {
         weldsMatter();
     }
 
-    private static Stowfinish loaded(int fifties) {
-        Stowfinish yard = Yards.full(96, 96, 96);
+    private static Yard loaded(int fifties) {
+        Yard yard = Yards.full(96, 96, 96);
         int[] rooms = {5, 6, 17, 18, 29, 30};
         for (int times = 0; times < fifties; times++) {
             if (times < rooms.length) {
@@ -378,7 +378,7 @@ public final class AnswersTest {
 
     /** A ton and a ton more, until the water of an hour no longer is 20 more. */
     private static void twentyAreEnough() {
-        Stowfinish yard = loaded(18);
+        Yard yard = loaded(18);
         boolean isMet = false;
         boolean isMissed = false;
         for (int times = 0; times < 150; times++) {
@@ -399,7 +399,7 @@ public final class AnswersTest {
     }
 
     private static void weldsMatter() {
-        Stowfinish yard = Yards.twoRows();
+        Yard yard = Yards.twoRows();
         yard.erect(yard.block(0, 5, 2, 5, 0, 8), 0);
         CHECKS.due("not filled", yard.firstHour(), Stowfinish.NONE);
         yard.erect(yard.block(6, 11, 2, 5, 0, 8), 0);
@@ -418,7 +418,7 @@ public final class AnswersTest {
 
     // Promises 31 and 32
     private static void moneyIsPaid() {
-        Stowfinish yard = Yards.eager();
+        Yard yard = Yards.eager();
         moneyOf(yard, 0);
         yard.welder(1, 100);
         yard.block(0, 5, 0, 1, 0, 8);
@@ -449,7 +449,7 @@ public final class AnswersTest {
         moneyOf(yard, 8480);
     }
 
-    private static void moneyOf(Stowfinish yard, int due) {
+    private static void moneyOf(Yard yard, int due) {
         CHECKS.due("money()", yard.money(), due);
         CHECKS.due("moneyAnew()", yard.moneyAnew(), due);
     }

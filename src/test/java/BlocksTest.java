@@ -26,7 +26,7 @@ public final class BlocksTest {
 
     // Promise 6
     private static void blockIsAsTold() {
-        Stowfinish yard = new Stowfinish();
+        Yard yard = new Yard();
         CHECKS.due("first block", yard.block(0, 11, 2, 200, 60, 8), 0);
         CHECKS.due("second block", yard.block(11, 11, 0, 1, 0, 1), 1);
         int[] first = {Stowfinish.LOOSE, 0, 11, 2, 200, 12060, 8, Stowfinish.NONE};
@@ -40,7 +40,7 @@ public final class BlocksTest {
     }
 
     private static void blockIsRefused() {
-        Stowfinish yard = new Stowfinish();
+        Yard yard = new Yard();
         yard.block(0, 0, 0, 1, 0, 1);
         CHECKS.noSuch("first -1", yard, () -> yard.block(-1, 3, 0, 1, 0, 1));
         CHECKS.noSuch("last 12", yard, () -> yard.block(0, 12, 0, 1, 0, 1));
@@ -55,13 +55,13 @@ public final class BlocksTest {
         CHECKS.wrongArgument("more 61", yard, () -> yard.block(0, 0, 0, 1, 61, 1));
         CHECKS.wrongArgument("lugs 0", yard, () -> yard.block(0, 0, 0, 1, 0, 0));
         CHECKS.wrongArgument("lugs 9", yard, () -> yard.block(0, 0, 0, 1, 0, 9));
-        Stowfinish ship = Yards.afloat();
+        Yard ship = Yards.afloat();
         CHECKS.wrongState("a block when afloat", ship, () -> ship.block(0, 0, 0, 1, 0, 1));
         CHECKS.wrongArgument("tons 0 when afloat", ship, () -> ship.block(0, 0, 0, 0, 0, 1));
     }
 
     private static void blocksAreSixty() {
-        Stowfinish yard = new Stowfinish();
+        Yard yard = new Yard();
         for (int block = 0; block < 60; block++) {
             CHECKS.due("block " + block, yard.block(block % 12, block % 12, 0, 1, 0, 1), block);
         }
@@ -74,7 +74,7 @@ public final class BlocksTest {
 
     // Promise 7
     private static void joinMakesAWhole() {
-        Stowfinish yard = new Stowfinish();
+        Yard yard = new Yard();
         yard.block(2, 3, 1, 10, 5, 2);
         yard.block(4, 4, 1, 20, 60, 8);
         CHECKS.due("join(0, 1, 3)", yard.join(0, 1, 3), 2);
@@ -94,7 +94,7 @@ public final class BlocksTest {
 
     private static void joinShrinksByLevel() {
         for (int level = 0; level < 3; level++) {
-            Stowfinish yard = new Stowfinish();
+            Yard yard = new Yard();
             for (int frame = 0; frame < 3; frame++) {
                 yard.block(frame, frame, level, 1, 10 * frame, 1);
             }
@@ -109,7 +109,7 @@ public final class BlocksTest {
     }
 
     private static void joinIsRefused() {
-        Stowfinish yard = new Stowfinish();
+        Yard yard = new Yard();
         yard.block(0, 1, 0, 10, 0, 8);
         yard.block(2, 3, 0, 10, 0, 8);
         yard.block(2, 3, 1, 10, 0, 8);
@@ -137,14 +137,14 @@ public final class BlocksTest {
         yard.scrap(7);
         CHECKS.wrongState("a scrapped one", yard, () -> yard.join(5, 7, 0));
         CHECKS.due("with the whole", yard.join(6, 5, 0), 8);
-        Stowfinish ship = Yards.afloatWithLoose(1);
+        Yard ship = Yards.afloatWithLoose(1);
         int last = ship.blocks();
         CHECKS.due("joined when afloat", ship.join(last - 2, last - 1, 0), last);
     }
 
     // Promise 8
     private static void erectBegins() {
-        Stowfinish yard = Yards.eager();
+        Yard yard = Yards.eager();
         yard.block(3, 3, 0, 1, 7, 8);
         CHECKS.due("alone", yard.erect(0, 0), 0);
         CHECKS.due("begins at its frame", yard.told(0, 7), 3000);
@@ -165,7 +165,7 @@ public final class BlocksTest {
 
     private static void erectCuts() {
         for (int excess : new int[] {-12, -1, 0, 1, 28, 60}) {
-            Stowfinish yard = Yards.spanned(excess);
+            Yard yard = Yards.spanned(excess);
             int block = yard.blocks() - 1;
             CHECKS.due("whyNot with " + excess, yard.whyNot(block), 0);
             CHECKS.due("cut with " + excess, yard.erect(block, 0), Math.max(0, excess));
@@ -174,7 +174,7 @@ public final class BlocksTest {
             CHECKS.due("tons with " + excess, yard.told(block, 4), 19);
         }
         for (int excess : new int[] {-19, -13, 61, 100}) {
-            Stowfinish yard = Yards.spanned(excess);
+            Yard yard = Yards.spanned(excess);
             int block = yard.blocks() - 1;
             CHECKS.due("whyNot with " + excess, yard.whyNot(block), 6);
             CHECKS.wrongState("erect with " + excess, yard, () -> yard.erect(block, 0));
@@ -183,7 +183,7 @@ public final class BlocksTest {
     }
 
     private static void spaceIsMeasuredWhereTheyStand() {
-        Stowfinish yard = Yards.eager();
+        Yard yard = Yards.eager();
         yard.block(3, 3, 0, 1, 0, 8);
         yard.block(2, 2, 0, 1, 30, 8);
         yard.block(0, 0, 0, 1, 10, 8);
@@ -201,7 +201,7 @@ public final class BlocksTest {
     }
 
     private static void erectWelds() {
-        Stowfinish yard = Yards.eager();
+        Yard yard = Yards.eager();
         yard.block(0, 3, 0, 7, 0, 8);
         yard.block(6, 7, 0, 7, 0, 8);
         yard.block(4, 5, 0, 7, 20, 8);
@@ -222,7 +222,7 @@ public final class BlocksTest {
             CHECKS.due("cell " + frame, yard.cell(frame, 0), frame < 4 ? 0 : frame < 6 ? 2 : 1);
         }
         // The draws from 1 are 38 and 26 of a hundred.
-        Stowfinish drawn = Yards.eager();
+        Yard drawn = Yards.eager();
         drawn.welder(1, 30);
         drawn.block(0, 0, 0, 1, 0, 8);
         drawn.block(2, 2, 0, 1, 0, 8);
@@ -235,7 +235,7 @@ public final class BlocksTest {
     }
 
     private static void erectSpoilsPaint() {
-        Stowfinish yard = Yards.eager();
+        Yard yard = Yards.eager();
         yard.block(0, 1, 0, 1, 0, 8);
         yard.block(4, 5, 0, 1, 0, 8);
         yard.block(2, 3, 0, 1, 0, 8);
@@ -258,7 +258,7 @@ public final class BlocksTest {
     }
 
     private static void erectIsRefused() {
-        Stowfinish yard = new Stowfinish();
+        Yard yard = new Yard();
         yard.block(0, 0, 0, 10, 0, 1);
         CHECKS.noSuch("erect(-1, 0)", yard, () -> yard.erect(-1, 0));
         CHECKS.noSuch("erect(1, 0)", yard, () -> yard.erect(1, 0));
@@ -273,13 +273,13 @@ public final class BlocksTest {
         CHECKS.wrongState("nothing below", yard, () -> yard.erect(2, 0));
         yard.block(1, 1, 0, 13, 0, 1);
         CHECKS.wrongState("the lugs do not hold", yard, () -> yard.erect(3, 0));
-        Stowfinish ship = Yards.afloatWithLoose(1);
+        Yard ship = Yards.afloatWithLoose(1);
         CHECKS.wrongState("afloat", ship, () -> ship.erect(ship.blocks() - 1, 0));
     }
 
     // Promise 9
     private static void scrapTakesAllParts() {
-        Stowfinish yard = new Stowfinish();
+        Yard yard = new Yard();
         for (int frame = 0; frame < 4; frame++) {
             yard.block(frame, frame, 0, 1, 0, 1);
         }
@@ -296,12 +296,12 @@ public final class BlocksTest {
         CHECKS.due("a single one", yard.scrap(7), 1);
         CHECKS.due("its welds are told of still", yard.weld(2, 2), 2);
         CHECKS.due("money stays", yard.money(), -60);
-        Stowfinish ship = Yards.afloatWithLoose(1);
+        Yard ship = Yards.afloatWithLoose(1);
         CHECKS.due("scrapped when afloat", ship.scrap(ship.blocks() - 1), 1);
     }
 
     private static void scrapIsRefused() {
-        Stowfinish yard = new Stowfinish();
+        Yard yard = new Yard();
         yard.block(0, 0, 0, 1, 0, 1);
         yard.block(1, 1, 0, 1, 0, 1);
         yard.join(0, 1, 0);
@@ -317,11 +317,11 @@ public final class BlocksTest {
 
     // Promise 10
     private static void testTellsOnce() {
-        Stowfinish yard = Yards.withFlaw(0, 100);
+        Yard yard = Yards.withFlaw(0, 100);
         CHECKS.due("flawed", yard.test(0), Stowfinish.BAD);
         CHECKS.due("told so", yard.weld(0, 0), Stowfinish.BAD);
         CHECKS.wrongState("again", yard, () -> yard.test(0));
-        Stowfinish good = Yards.withFlaw(0, 0);
+        Yard good = Yards.withFlaw(0, 0);
         CHECKS.due("not flawed", good.test(0), Stowfinish.GOOD);
         CHECKS.due("told so", good.weld(0, 0), Stowfinish.GOOD);
         CHECKS.wrongState("again", good, () -> good.test(0));
@@ -330,7 +330,7 @@ public final class BlocksTest {
     }
 
     private static void testIsRefused() {
-        Stowfinish yard = Yards.withFlaw(0, 0);
+        Yard yard = Yards.withFlaw(0, 0);
         CHECKS.noSuch("test(-1)", yard, () -> yard.test(-1));
         CHECKS.noSuch("test(1)", yard, () -> yard.test(1));
         yard.block(2, 2, 0, 1, 0, 1);
@@ -338,7 +338,7 @@ public final class BlocksTest {
         yard.scrap(4);
         CHECKS.wrongState("of a scrapped block", yard, () -> yard.test(0));
         CHECKS.wrongState("the other one too", yard, () -> yard.test(1));
-        Stowfinish ship = Yards.afloatWithLoose(1);
+        Yard ship = Yards.afloatWithLoose(1);
         int last = ship.blocks();
         ship.join(last - 2, last - 1, 0);
         CHECKS.due("tested when afloat", ship.test(ship.welds() - 1), Stowfinish.GOOD);
@@ -346,7 +346,7 @@ public final class BlocksTest {
 
     // Promise 11
     private static void repairTwiceAtMost() {
-        Stowfinish yard = Yards.withFlaw(0, 100);
+        Yard yard = Yards.withFlaw(0, 100);
         yard.test(0);
         CHECKS.due("once", yard.repair(0, 1), 1);
         CHECKS.due("untested then", yard.weld(0, 0), Stowfinish.UNTESTED);
@@ -359,7 +359,7 @@ public final class BlocksTest {
         CHECKS.due("38 is below 39", yard.test(0), Stowfinish.BAD);
         CHECKS.wrongState("thrice", yard, () -> yard.repair(0, 2));
         CHECKS.due("30 each", yard.money(), -80);
-        Stowfinish mended = Yards.withFlaw(0, 100);
+        Yard mended = Yards.withFlaw(0, 100);
         mended.test(0);
         mended.welder(2, 38);
         mended.draw(1);
@@ -369,7 +369,7 @@ public final class BlocksTest {
     }
 
     private static void repairSpoilsPaintWhereItStands() {
-        Stowfinish yard = Yards.withFlaw(0, 100);
+        Yard yard = Yards.withFlaw(0, 100);
         yard.block(0, 3, 0, 1, 0, 1);
         yard.erect(3, 0);
         for (int room = 0; room < 4; room++) {
@@ -378,7 +378,7 @@ public final class BlocksTest {
         yard.test(0);
         yard.repair(0, 1);
         CHECKS.due("its rooms do not stand", yard.cell(0, 1) + yard.cell(1, 1), 2);
-        Stowfinish standing = Yards.withFlaw(0, 100);
+        Yard standing = Yards.withFlaw(0, 100);
         standing.block(2, 2, 0, 1, 0, 1);
         standing.join(2, 3, 1);
         standing.erect(4, 0);
@@ -401,14 +401,14 @@ public final class BlocksTest {
         paintOf(standing, 0, 0, 0, 0);
     }
 
-    private static void paintOf(Stowfinish yard, int... painted) {
+    private static void paintOf(Yard yard, int... painted) {
         for (int room = 0; room < painted.length; room++) {
             CHECKS.due("paint of " + room, yard.cell(room, 1), painted[room]);
         }
     }
 
     private static void repairIsRefused() {
-        Stowfinish yard = Yards.withFlaw(0, 100);
+        Yard yard = Yards.withFlaw(0, 100);
         CHECKS.noSuch("repair(-1, 0)", yard, () -> yard.repair(-1, 0));
         CHECKS.noSuch("repair(1, 0)", yard, () -> yard.repair(1, 0));
         CHECKS.noSuch("repair(0, 4)", yard, () -> yard.repair(0, 4));
@@ -417,7 +417,7 @@ public final class BlocksTest {
         yard.test(0);
         yard.scrap(2);
         CHECKS.wrongState("of a scrapped block", yard, () -> yard.repair(0, 0));
-        Stowfinish ship = Yards.afloatWithLoose(1);
+        Yard ship = Yards.afloatWithLoose(1);
         int last = ship.blocks();
         ship.welder(1, 100);
         ship.join(last - 2, last - 1, 1);

@@ -1,6 +1,9 @@
+import java.util.ArrayList;
+import java.util.List;
+
 /** Counts the answers that are not the ones due, and prints them. */
 final class Checks {
-    interface Call {
+    interface Answer {
         long answer();
     }
 
@@ -8,9 +11,13 @@ final class Checks {
     private int made = 0;
 
     void due(String what, long got, long want) {
+        due(what, String.valueOf(got), String.valueOf(want));
+    }
+
+    void due(String what, String got, String want) {
         made++;
-        if (got != want) {
-            report(what + " answered " + got + ", due is " + want);
+        if (!got.equals(want)) {
+            report(what + ": answered " + got + ", due is " + want);
         }
     }
 
@@ -21,32 +28,32 @@ final class Checks {
         }
     }
 
-    /** The call must throw exactly this exception, and every answer of the yard must stay as it was. */
-    void refused(String what, Stowfinish yard, Class<? extends RuntimeException> due, Call call) {
-        made++;
-        String before = Snapshot.of(yard);
+    /** The call must throw exactly this exception, and whatever is called afterwards must answer as without it. */
+    void refused(String what, Yard yard, String due, Answer call) {
+        List<Call> before = yard.deeds();
+        String got;
         try {
-            report(what + " answered " + call.answer() + ", due is " + due.getSimpleName());
+            got = String.valueOf(call.answer());
         } catch (RuntimeException thrown) {
-            if (thrown.getClass() != due) {
-                report(what + " threw " + thrown + ", due is " + due.getSimpleName());
-            }
+            got = Call.textOf(thrown);
         }
-        if (!before.equals(Snapshot.of(yard))) {
-            report(what + " changed something:\n" + before + Snapshot.of(yard));
-        }
+        due(what, got, "throws " + due);
+        List<Call> after = new ArrayList<>(before);
+        after.add(yard.last());
+        String difference = Probes.difference(before, after);
+        holds(what + ": it changes nothing:" + difference, difference == null);
     }
 
-    void noSuch(String what, Stowfinish yard, Call call) {
-        refused(what, yard, IndexOutOfBoundsException.class, call);
+    void noSuch(String what, Yard yard, Answer call) {
+        refused(what, yard, "IndexOutOfBoundsException", call);
     }
 
-    void wrongArgument(String what, Stowfinish yard, Call call) {
-        refused(what, yard, IllegalArgumentException.class, call);
+    void wrongArgument(String what, Yard yard, Answer call) {
+        refused(what, yard, "IllegalArgumentException", call);
     }
 
-    void wrongState(String what, Stowfinish yard, Call call) {
-        refused(what, yard, IllegalStateException.class, call);
+    void wrongState(String what, Yard yard, Answer call) {
+        refused(what, yard, "IllegalStateException", call);
     }
 
     void end() {

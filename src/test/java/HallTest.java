@@ -16,7 +16,7 @@ public final class HallTest {
 
     // Promise 1
     private static void newObject() {
-        Stowfinish yard = new Stowfinish();
+        Yard yard = new Yard();
         CHECKS.due("blocks of a new yard", yard.blocks(), 0);
         CHECKS.due("welds of a new yard", yard.welds(), 0);
         CHECKS.holds("a new ship is not afloat", !yard.isAfloat());
@@ -34,14 +34,14 @@ public final class HallTest {
         for (int welder = 0; welder < 4; welder++) {
             CHECKS.due("flaws at first", yard.welder(welder, 10), 10);
         }
-        Stowfinish other = new Stowfinish();
+        Yard other = new Yard();
         yard.block(0, 0, 0, 1, 0, 1);
         CHECKS.due("blocks of another yard", other.blocks(), 0);
     }
 
     // Promise 2
     private static void hallTellsFramesBefore() {
-        Stowfinish yard = new Stowfinish();
+        Yard yard = new Yard();
         CHECKS.due("hall(1, 1)", yard.hall(1, 1), 6);
         CHECKS.due("hall(12, 1000)", yard.hall(12, 1000), 1);
         CHECKS.due("hall(7, 9)", yard.hall(7, 9), 12);
@@ -54,7 +54,7 @@ public final class HallTest {
 
     private static void hallBoundsJoins() {
         hallAtFirst();
-        Stowfinish yard = new Stowfinish();
+        Yard yard = new Yard();
         yard.block(0, 3, 0, 100, 0, 8);
         yard.block(4, 6, 0, 100, 0, 8);
         CHECKS.wrongState("7 frames through a door of 6", yard, () -> yard.join(0, 1, 0));
@@ -70,7 +70,7 @@ public final class HallTest {
     }
 
     private static void hallAtFirst() {
-        Stowfinish yard = new Stowfinish();
+        Yard yard = new Yard();
         yard.block(0, 2, 0, 150, 0, 8);
         yard.block(3, 5, 0, 150, 0, 8);
         CHECKS.wrongState("301 tons at first", yard, () -> yard.join(0, 1, 0));
@@ -80,7 +80,7 @@ public final class HallTest {
 
     // Promise 3
     private static void craneTellsTonsBefore() {
-        Stowfinish yard = new Stowfinish();
+        Yard yard = new Yard();
         CHECKS.due("crane(11, 1)", yard.crane(11, 1), 200);
         CHECKS.due("crane(0, 1000)", yard.crane(0, 1000), 1);
         CHECKS.noSuch("crane(-1, 5)", yard, () -> yard.crane(-1, 5));
@@ -92,7 +92,7 @@ public final class HallTest {
     }
 
     private static void craneLifts() {
-        Stowfinish yard = new Stowfinish();
+        Yard yard = new Yard();
         yard.block(4, 6, 0, 90, 0, 8);
         yard.crane(11, 125);
         CHECKS.due("90 tons, 7 frames from 125", yard.whyNot(0), 0);
@@ -112,7 +112,7 @@ public final class HallTest {
 
     // Promise 4
     private static void welderTellsFlawsBefore() {
-        Stowfinish yard = new Stowfinish();
+        Yard yard = new Yard();
         CHECKS.due("welder(0, 0)", yard.welder(0, 0), 10);
         CHECKS.due("welder(0, 100)", yard.welder(0, 100), 0);
         CHECKS.due("welder(3, 7)", yard.welder(3, 7), 10);
@@ -126,7 +126,7 @@ public final class HallTest {
     }
 
     private static void welderCountsFromThenOn() {
-        Stowfinish yard = new Stowfinish();
+        Yard yard = new Yard();
         for (int block = 0; block < 4; block++) {
             yard.block(block % 2, block % 2, 0, 1, 0, 1);
         }
@@ -141,7 +141,7 @@ public final class HallTest {
 
     // Promise 5
     private static void drawTellsWhatItWas() {
-        Stowfinish yard = new Stowfinish();
+        Yard yard = new Yard();
         CHECKS.due("draw(-5)", yard.draw(-5), 1);
         CHECKS.due("draw(max)", yard.draw(Integer.MAX_VALUE), -5);
         CHECKS.due("draw(min)", yard.draw(Integer.MIN_VALUE), Integer.MAX_VALUE);
@@ -160,7 +160,7 @@ public final class HallTest {
     }
 
     private static void flawedFrom(int x, int flaws, int due) {
-        Stowfinish yard = new Stowfinish();
+        Yard yard = new Yard();
         yard.block(0, 0, 0, 1, 0, 1);
         yard.block(1, 1, 0, 1, 0, 1);
         yard.welder(2, flaws);

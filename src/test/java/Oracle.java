@@ -44,7 +44,7 @@ final class Oracle {
     int x = 1, door = 6, hold = 300, craneFrame = 0, craneTons = 200;
     boolean isAfloat = false;
 
-    long answer(Calls.Kind kind, int[] a) {
+    long answer(Call.Kind kind, int[] a) {
         switch (kind) {
             case HALL: return hall(a[0], a[1]);
             case CRANE: return crane(a[0], a[1]);

@@ -1,5 +1,4 @@
 import java.util.ArrayList;
-import java.util.Arrays;
 import java.util.EnumMap;
 import java.util.List;
 import java.util.Map;
@@ -7,24 +6,24 @@ import java.util.Random;
 
 /** Runs of calls from fixed seeds: each answer, thrown or given, is held against that of the Oracle. */
 public final class RandomRunsTest {
-    private static final int RUNS = 400, CALLS = 512;
+    private static final int RUNS = 400, DEEDS = 400;
 
     private final Random random;
-    private final Stowfinish yard = new Stowfinish();
+    private final Yard yard = new Yard();
     private final Oracle oracle = new Oracle();
     private final List<String> run = new ArrayList<>();
-    private final Map<Calls.Kind, int[]> counts;
+    private final Map<Call.Kind, int[]> counts;
     private boolean isWrong = false;
 
-    private RandomRunsTest(long seed, Map<Calls.Kind, int[]> counts) {
+    private RandomRunsTest(long seed, Map<Call.Kind, int[]> counts) {
         this.random = new Random(seed);
         this.counts = counts;
     }
 
     public static void main(String[] args) {
         int runs = args.length > 0 ? Integer.parseInt(args[0]) : RUNS;
-        Map<Calls.Kind, int[]> counts = new EnumMap<>(Calls.Kind.class);
-        for (Calls.Kind kind : Calls.Kind.values()) {
+        Map<Call.Kind, int[]> counts = new EnumMap<>(Call.Kind.class);
+        for (Call.Kind kind : Call.Kind.values()) {
             counts.put(kind, new int[2]);
         }
         for (int seed = 0; seed < runs; seed++) {
@@ -34,14 +33,14 @@ public final class RandomRunsTest {
                 System.exit(1);
             }
         }
-        for (Map.Entry<Calls.Kind, int[]> each : counts.entrySet()) {
+        for (Map.Entry<Call.Kind, int[]> each : counts.entrySet()) {
             int[] count = each.getValue();
             if (count[0] == 0) {
                 System.out.println("no run has an answer of " + each.getKey());
                 System.exit(1);
             }
         }
-        System.out.println(runs + " runs agree, " + counts.get(Calls.Kind.LAUNCH)[0] + " of them with a launch");
+        System.out.println(runs + " runs agree, " + counts.get(Call.Kind.LAUNCH)[0] + " of them with a launch");
     }
 
     private boolean runs() {
@@ -49,8 +48,8 @@ public final class RandomRunsTest {
         if (isTame) {
             begin();
         }
-        for (int call = 0; call < CALLS && !isWrong; call++) {
-            Calls.Kind kind = Calls.Kind.values()[random.nextInt(random.nextInt(4) == 0 ? 31 : 15)];
+        for (int call = 0; yard.deeds().size() < DEEDS && !isWrong; call++) {
+            Call.Kind kind = Call.Kind.values()[random.nextInt(random.nextInt(4) == 0 ? 31 : 15)];
             compare(kind, random.nextInt(8) == 0 ? anyArguments(kind) : arguments(kind));
             if (call % 16 == 0) {
                 compareAll();
@@ -61,66 +60,59 @@ public final class RandomRunsTest {
 
     /** A hall, a crane and welders with which much can be done. */
     private void begin() {
-        compare(Calls.Kind.HALL, new int[] {12, 1000});
-        compare(Calls.Kind.CRANE, new int[] {random.nextInt(12), 300});
+        compare(Call.Kind.HALL, new int[] {12, 1000});
+        compare(Call.Kind.CRANE, new int[] {random.nextInt(12), 300});
         for (int welder = 0; welder < 3; welder++) {
-            compare(Calls.Kind.WELDER, new int[] {welder, 30 * welder});
+            compare(Call.Kind.WELDER, new int[] {welder, 30 * welder});
         }
     }
 
-    private void compare(Calls.Kind kind, int[] a) {
-        String got = answerOfYard(kind, a);
+    private void compare(Call.Kind kind, int[] a) {
+        Call call = new Call(kind, a);
+        String got = yard.make(call);
         String due = answerOfOracle(kind, a);
         counts.get(kind)[due.startsWith("throws") ? 1 : 0]++;
-        if (kind.ordinal() < 15) {
-            run.add(kind + Arrays.toString(a) + " " + due);
+        if (kind.isDeed()) {
+            run.add(call + " " + due);
         }
         if (!got.equals(due)) {
-            run.add(kind + Arrays.toString(a) + " answered " + got + ", due is " + due);
+            run.add(call + " answered " + got + ", due is " + due);
             isWrong = true;
         }
     }
 
-    private String answerOfYard(Calls.Kind kind, int[] a) {
-        try {
-            return String.valueOf(Calls.answer(yard, kind, a));
-        } catch (RuntimeException thrown) {
-            return "throws." + thrown.getClass().getSimpleName();
-        }
-    }
-
-    private String answerOfOracle(Calls.Kind kind, int[] a) {
+    private String answerOfOracle(Call.Kind kind, int[] a) {
         try {
             return String.valueOf(oracle.answer(kind, a));
         } catch (RuntimeException thrown) {
-            return "throws." + thrown.getClass().getSimpleName();
+            return Call.textOf(thrown);
         }
     }
 
     private void compareAll() {
         for (int block = 0; block < oracle.blocks.size(); block++) {
-            compare(Calls.Kind.WHY_NOT, new int[] {block});
-            compareFacts(Calls.Kind.TOLD, block, 7);
+            compare(Call.Kind.WHY_NOT, new int[] {block});
+            compareFacts(Call.Kind.TOLD, block, 7);
         }
         for (int weld = 0; weld < oracle.welds.size(); weld++) {
-            compareFacts(Calls.Kind.WELD, weld, 3);
+            compareFacts(Call.Kind.WELD, weld, 3);
         }
         for (int cell = 0; cell < 36; cell++) {
-            compareFacts(Calls.Kind.CELL, cell, 4);
+            compareFacts(Call.Kind.CELL, cell, 4);
         }
         for (int pipe = 0; pipe < oracle.pipes.size(); pipe++) {
-            compareFacts(Calls.Kind.ROOM_AT, pipe, 36);
+            compareFacts(Call.Kind.ROOM_AT, pipe, 36);
         }
-        for (Calls.Kind kind : Calls.Kind.values()) {
+        for (Call.Kind kind : Call.Kind.values()) {
             if (kind.arguments == 0) {
                 compare(kind, new int[0]);
             }
         }
-        compareFacts(Calls.Kind.DRAUGHT, 1, 0);
-        compareFacts(Calls.Kind.DRAUGHT, 0, 0);
+        compare(Call.Kind.DRAUGHT, new int[] {0});
+        compare(Call.Kind.DRAUGHT, new int[] {1});
     }
 
-    private void compareFacts(Calls.Kind kind, int number, int most) {
+    private void compareFacts(Call.Kind kind, int number, int most) {
         for (int what = 0; what <= most; what++) {
             compare(kind, new int[] {number, what});
         }
@@ -135,7 +127,7 @@ public final class RandomRunsTest {
         return first - 1 + below(last - first + 3);
     }
 
-    private int[] anyArguments(Calls.Kind kind) {
+    private int[] anyArguments(Call.Kind kind) {
         int[] bounds = {0, 1, 2, 3, 6, 8, 11, 12, 35, 36, 60, 100, 200, 300, 1000};
         int[] a = new int[kind.arguments];
         for (int i = 0; i < a.length; i++) {
@@ -145,7 +137,7 @@ public final class RandomRunsTest {
         return a;
     }
 
-    private int[] arguments(Calls.Kind kind) {
+    private int[] arguments(Call.Kind kind) {
         switch (kind) {
             case HALL: return new int[] {below(3) == 0 ? near(1, 12) : 12, below(3) == 0 ? near(1, 1000) : 1000};
             case CRANE: return new int[] {near(0, 11), below(4) == 0 ? near(1, 1000) : 200 + below(300)};
@@ -179,7 +171,7 @@ public final class RandomRunsTest {
         int first = cell % 12;
         int last = first;
         boolean isLong = below(3) == 0;
-        while (last < 11 && below(4) > 0 && (isLong || oracle.answer(Calls.Kind.CELL, new int[] {cell - first + last + 1, 0}) < 0)) {
+        while (last < 11 && below(4) > 0 && (isLong || oracle.answer(Call.Kind.CELL, new int[] {cell - first + last + 1, 0}) < 0)) {
             last++;
         }
         int more = below(3) > 0 ? below(12) : below(61);
@@ -193,7 +185,7 @@ public final class RandomRunsTest {
     private int firstEmpty() {
         int skip = below(3) == 0 ? below(6) : 0;
         for (int cell = 0; cell < 36; cell++) {
-            if (oracle.answer(Calls.Kind.CELL, new int[] {cell, 0}) < 0 && skip-- <= 0) {
+            if (oracle.answer(Call.Kind.CELL, new int[] {cell, 0}) < 0 && skip-- <= 0) {
                 return cell;
             }
         }
@@ -214,7 +206,7 @@ public final class RandomRunsTest {
     private int erectable() {
         for (int tries = 0; tries < 60 && !oracle.blocks.isEmpty(); tries++) {
             int block = below(oracle.blocks.size());
-            if (oracle.answer(Calls.Kind.WHY_NOT, new int[] {block}) == 0) {
+            if (oracle.answer(Call.Kind.WHY_NOT, new int[] {block}) == 0) {
                 return block;
             }
         }

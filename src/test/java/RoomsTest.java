@@ -25,7 +25,7 @@ public final class RoomsTest {
 
     // Promise 12
     private static void holeIsInBothRooms() {
-        Stowfinish yard = Yards.full(1, 1, 1);
+        Yard yard = Yards.full(1, 1, 1);
         yard.hole(13, false);
         CHECKS.due("to the one behind", yard.cell(13, 4), 2);
         CHECKS.due("to the one ahead", yard.cell(14, 4), 1);
@@ -43,7 +43,7 @@ public final class RoomsTest {
     }
 
     private static void holeSpoilsPaint() {
-        Stowfinish yard = Yards.twoRows();
+        Yard yard = Yards.twoRows();
         for (int room : new int[] {0, 1, 2, 12}) {
             yard.paint(room);
         }
@@ -60,7 +60,7 @@ public final class RoomsTest {
     }
 
     private static void holeIsRefused() {
-        Stowfinish yard = Yards.twoRows();
+        Yard yard = Yards.twoRows();
         yard.block(0, 5, 2, 1, 0, 8);
         yard.erect(2, 0);
         CHECKS.noSuch("hole(-1)", yard, () -> yard.hole(-1, true));
@@ -77,27 +77,27 @@ public final class RoomsTest {
         yard.paint(1);
         CHECKS.wrongState("a second one", yard, () -> yard.hole(0, false));
         CHECKS.wrongState("a second one up", yard, () -> yard.hole(0, true));
-        Stowfinish ship = Yards.afloat();
+        Yard ship = Yards.afloat();
         CHECKS.wrongState("afloat", ship, () -> ship.hole(0, false));
         CHECKS.noSuch("afloat, no room", ship, () -> ship.hole(11, false));
     }
 
     // Promise 13
     private static void paintTellsHowMany() {
-        Stowfinish yard = Yards.full(1, 1, 1);
+        Yard yard = Yards.full(1, 1, 1);
         for (int room = 0; room < 36; room++) {
             CHECKS.due("paint(" + room + ")", yard.paint(room), room + 1);
             CHECKS.due("painted", yard.cell(room, 1), 1);
         }
         yard.hole(0, false);
         CHECKS.due("again", yard.paint(1), 35);
-        Stowfinish ship = Yards.afloat();
+        Yard ship = Yards.afloat();
         CHECKS.due("when afloat", ship.paint(35), 1);
         CHECKS.due("paint costs nothing", ship.money(), 8600);
     }
 
     private static void paintIsRefused() {
-        Stowfinish yard = Yards.twoRows();
+        Yard yard = Yards.twoRows();
         yard.paint(3);
         CHECKS.noSuch("paint(-1)", yard, () -> yard.paint(-1));
         CHECKS.noSuch("paint(36)", yard, () -> yard.paint(36));
@@ -107,7 +107,7 @@ public final class RoomsTest {
 
     // Promise 14
     private static void fitTellsThings() {
-        Stowfinish yard = Yards.twoRows();
+        Yard yard = Yards.twoRows();
         yard.paint(13);
         CHECKS.due("fit(13, 100)", yard.fit(13, 100), 100);
         CHECKS.due("fit(13, 1)", yard.fit(13, 1), 101);
@@ -122,13 +122,13 @@ public final class RoomsTest {
         yard.paint(14);
         yard.pipe(13, 14);
         CHECKS.due("pipes are no things", yard.fit(14, 100), 100);
-        Stowfinish ship = Yards.afloat();
+        Yard ship = Yards.afloat();
         ship.paint(0);
         CHECKS.due("when afloat", ship.fit(0, 5), 5);
     }
 
     private static void fitIsRefused() {
-        Stowfinish yard = Yards.twoRows();
+        Yard yard = Yards.twoRows();
         yard.paint(0);
         yard.paint(1);
         CHECKS.noSuch("fit(-1, 1)", yard, () -> yard.fit(-1, 1));
@@ -144,7 +144,7 @@ public final class RoomsTest {
 
     // Promise 15
     private static void pipeTakesTheShortestWay() {
-        Stowfinish yard = Yards.twoRows();
+        Yard yard = Yards.twoRows();
         for (int frame = 0; frame < 5; frame++) {
             yard.hole(frame, false);
         }
@@ -161,14 +161,14 @@ public final class RoomsTest {
         yard.paint(0);
         CHECKS.due("next to it", yard.pipe(0, 1), 2);
         CHECKS.due("a pipe is no hot work", yard.cell(0, 1), 1);
-        Stowfinish ship = Yards.full(1, 1, 1);
+        Yard ship = Yards.full(1, 1, 1);
         ship.hole(0, true);
         ship.launch(0);
         CHECKS.due("when afloat", ship.pipe(12, 0), 2);
     }
 
     private static void pipeTakesTheLowerRoom() {
-        Stowfinish yard = Yards.full(1, 1, 1);
+        Yard yard = Yards.full(1, 1, 1);
         for (int frame = 0; frame < 3; frame++) {
             for (int level = 0; level < 3; level++) {
                 if (frame < 2) {
@@ -191,7 +191,7 @@ public final class RoomsTest {
     }
 
     private static void pipeGoesBackAndUp() {
-        Stowfinish yard = Yards.full(1, 1, 1);
+        Yard yard = Yards.full(1, 1, 1);
         // From 5 up, back and up again: the only way, and one that begins with the higher room.
         yard.hole(5, true);
         yard.hole(16, false);
@@ -203,7 +203,7 @@ public final class RoomsTest {
     }
 
     private static void pipeGoesRoundFullRooms() {
-        Stowfinish yard = Yards.twoRows();
+        Yard yard = Yards.twoRows();
         yard.hole(0, false);
         yard.hole(1, false);
         yard.hole(0, true);
@@ -225,7 +225,7 @@ public final class RoomsTest {
     }
 
     private static void pipeIsRefused() {
-        Stowfinish yard = Yards.twoRows();
+        Yard yard = Yards.twoRows();
         yard.hole(0, false);
         CHECKS.noSuch("pipe(-1, 0)", yard, () -> yard.pipe(-1, 0));
         CHECKS.noSuch("pipe(0, 36)", yard, () -> yard.pipe(0, 36));
@@ -239,7 +239,7 @@ public final class RoomsTest {
     }
 
     private static void pipesAreThirty() {
-        Stowfinish yard = Yards.full(1, 1, 1);
+        Yard yard = Yards.full(1, 1, 1);
         for (int frame = 0; frame < 12; frame++) {
             yard.hole(frame, true);
         }
@@ -256,7 +256,7 @@ public final class RoomsTest {
         CHECKS.noSuch("the 31st", yard, () -> yard.roomAt(30, 0));
     }
 
-    private static void wayOf(Stowfinish yard, int pipe, int... rooms) {
+    private static void wayOf(Yard yard, int pipe, int... rooms) {
         for (int place = 0; place < rooms.length; place++) {
             CHECKS.due("roomAt(" + pipe + ", " + place + ")", yard.roomAt(pipe, place), rooms[place]);
         }
@@ -266,14 +266,14 @@ public final class RoomsTest {
     // Promise 16
     private static void launchTellsTheMargin() {
         for (int hour : new int[] {0, 3, 6, 9, 1000}) {
-            Stowfinish yard = Yards.full(10, 10, 10);
+            Yard yard = Yards.full(10, 10, 10);
             CHECKS.due("launch(" + hour + ")", yard.launch(hour), yard.water(hour) - 15);
             CHECKS.holds("afloat", yard.isAfloat());
             CHECKS.due("5000 for it", yard.money(), 8600);
             CHECKS.wrongState("again", yard, () -> yard.launch(0));
             CHECKS.wrongArgument("again, hour 1001", yard, () -> yard.launch(1001));
         }
-        Stowfinish loose = Yards.withFlaw(0, 100);
+        Yard loose = Yards.withFlaw(0, 100);
         CHECKS.wrongState("nothing stands", loose, () -> loose.launch(0));
     }
 
@@ -282,7 +282,7 @@ public final class RoomsTest {
             boolean isMet = false;
             boolean isMissed = false;
             for (int more = 0; more <= 100; more++) {
-                Stowfinish yard = heavy(frame, more);
+                Yard yard = heavy(frame, more);
                 int margin = yard.water(3) - yard.draught(frame == 8);
                 CHECKS.holds("the other draught is less", yard.draught(frame == 8) > yard.draught(frame == 3));
                 if (margin == 20) {
@@ -300,8 +300,8 @@ public final class RoomsTest {
     }
 
     /** Things in the three rooms of a frame, so that one end lies some 650 deep. */
-    private static Stowfinish heavy(int frame, int more) {
-        Stowfinish yard = Yards.full(96, 96, 96);
+    private static Yard heavy(int frame, int more) {
+        Yard yard = Yards.full(96, 96, 96);
         for (int level = 0; level < 3; level++) {
             yard.paint(12 * level + frame);
         }
@@ -317,10 +317,10 @@ public final class RoomsTest {
     }
 
     private static void launchIsRefused() {
-        Stowfinish yard = Yards.full(10, 10, 10);
+        Yard yard = Yards.full(10, 10, 10);
         CHECKS.wrongArgument("launch(-1)", yard, () -> yard.launch(-1));
         CHECKS.wrongArgument("launch(1001)", yard, () -> yard.launch(1001));
-        Stowfinish open = Yards.twoRows();
+        Yard open = Yards.twoRows();
         open.block(0, 10, 2, 1, 0, 8);
         open.erect(2, 0);
         CHECKS.wrongState("a cell is not filled", open, () -> open.launch(0));
@@ -332,7 +332,7 @@ public final class RoomsTest {
     }
 
     private static void launchAsksForWelds() {
-        Stowfinish yard = Yards.eager();
+        Yard yard = Yards.eager();
         yard.block(0, 5, 0, 10, 0, 8);
         yard.block(6, 9, 0, 10, 0, 8);
         yard.block(10, 11, 0, 10, 0, 8);

@@ -4,8 +4,8 @@ final class Yards {
     }
 
     /** Its hall, its crane and its welder 0 refuse nothing and fail in nothing. */
-    static Stowfinish eager() {
-        Stowfinish yard = new Stowfinish();
+    static Yard eager() {
+        Yard yard = new Yard();
         yard.hall(12, 1000);
         yard.crane(0, 1000);
         yard.welder(0, 0);
@@ -13,8 +13,8 @@ final class Yards {
     }
 
     /** All 36 cells are filled by three blocks of so many tons. */
-    static Stowfinish full(int low, int middle, int high) {
-        Stowfinish yard = eager();
+    static Yard full(int low, int middle, int high) {
+        Yard yard = eager();
         int[] tons = {low, middle, high};
         for (int level = 0; level < 3; level++) {
             yard.erect(yard.block(0, 11, level, tons[level], 0, 8), 0);
@@ -23,23 +23,23 @@ final class Yards {
     }
 
     /** Two rows of rooms stand. */
-    static Stowfinish twoRows() {
-        Stowfinish yard = eager();
+    static Yard twoRows() {
+        Yard yard = eager();
         for (int level = 0; level < 2; level++) {
             yard.erect(yard.block(0, 11, level, 10, 0, 8), 0);
         }
         return yard;
     }
 
-    static Stowfinish afloat() {
-        Stowfinish yard = full(10, 10, 10);
+    static Yard afloat() {
+        Yard yard = full(10, 10, 10);
         yard.launch(0);
         return yard;
     }
 
     /** Afloat, with loose blocks at the frames 4 and 5 of a level. */
-    static Stowfinish afloatWithLoose(int level) {
-        Stowfinish yard = full(10, 10, 10);
+    static Yard afloatWithLoose(int level) {
+        Yard yard = full(10, 10, 10);
         yard.block(4, 4, level, 5, 0, 1);
         yard.block(5, 5, level, 5, 0, 1);
         yard.launch(0);
@@ -47,8 +47,8 @@ final class Yards {
     }
 
     /** Block 2 is joined from two single ones, with flaws of its welder 1 and with x told before. */
-    static Stowfinish withFlaw(int first, int flaws) {
-        Stowfinish yard = new Stowfinish();
+    static Yard withFlaw(int first, int flaws) {
+        Yard yard = new Yard();
         yard.block(first, first, 0, 1, 0, 1);
         yard.block(first + 1, first + 1, 0, 1, 0, 1);
         yard.welder(0, 0);
@@ -61,8 +61,8 @@ final class Yards {
      * Blocks 0 and 1 stand at the frames 0 and 11, and the last block, joined of ten, is longer by an excess
      * (-19 to 101) than the 9992 millimetres that are between them.
      */
-    static Stowfinish spanned(int excess) {
-        Stowfinish yard = eager();
+    static Yard spanned(int excess) {
+        Yard yard = eager();
         yard.erect(yard.block(0, 0, 0, 1, 0, 8), 0);
         yard.erect(yard.block(11, 11, 0, 1, 0, 8), 0);
         // Nine joins take 27 of 10000.
