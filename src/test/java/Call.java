@@ -43,7 +43,7 @@ final class Call {
         this.arguments = arguments;
     }
 
-    /** Reads what toString() writes; true and false may stand for 1 and 0. */
+    /** Reads what toString() writes; true, false, min and max may stand for 1, 0, the least int and the greatest. */
     static Call of(String text) {
         int open = text.indexOf('(');
         Kind kind = Kind.of(text.substring(0, open));
@@ -51,10 +51,19 @@ final class Call {
         String[] parts = inside.isEmpty() ? new String[0] : inside.split(",");
         int[] arguments = new int[parts.length];
         for (int i = 0; i < parts.length; i++) {
-            String part = parts[i].trim();
-            arguments[i] = part.equals("true") ? 1 : part.equals("false") ? 0 : Integer.parseInt(part);
+            arguments[i] = number(parts[i].trim());
         }
         return new Call(kind, arguments);
+    }
+
+    private static int number(String text) {
+        switch (text) {
+            case "true": return 1;
+            case "false": return 0;
+            case "min": return Integer.MIN_VALUE;
+            case "max": return Integer.MAX_VALUE;
+            default: return Integer.parseInt(text);
+        }
     }
 
     /** What an object answers: a number (a boolean counts 1 or 0), or "throws" and the exception. */
