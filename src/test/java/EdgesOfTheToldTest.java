@@ -36,6 +36,7 @@ public final class EdgesOfTheToldTest {
         return new Edge(CHECKS, sentence);
     }
 
+    /** The part "The public face". */
     private static void constants() {
         CHECKS.due("NONE = -1", Stowfinish.NONE, -1);
         CHECKS.due("LOOSE = 0", Stowfinish.LOOSE, 0);
@@ -85,11 +86,17 @@ public final class EdgesOfTheToldTest {
     }
 
     private static void promise1ToldAtFirst() {
-        edge("Terms: the door is wide, 6 at first").calls("hall(6, 300) 6");
-        edge("Terms: the tons of the crane, 200 at first").calls("crane(0, 200) 200");
-        edge("Terms: x (an int, 1 at first)").calls("draw(1) 1");
-        edge("Terms: the flaws of the welder, 10 at first")
+        edge("promises 1 and 2: the door is wide, 6 at first").calls("hall(6, 300) 6");
+        edge("promises 1 and 3: the tons of the crane, 200 at first").calls("crane(0, 200) 200");
+        edge("promises 1 and 5: x (an int, 1 at first)").calls("draw(1) 1");
+        edge("promises 1 and 4: the flaws of the welder, 10 at first")
                 .calls("welder(0, 10) 10", "welder(1, 10) 10", "welder(2, 10) 10", "welder(3, 10) 10");
+        edge("promises 1 and 2: than the hall holds, 300 at first").calls("block(0, 0, 0, 100, 0, 1) 0", "block(1, 1, 0, 199, 0, 1) 1",
+                        "block(1, 1, 0, 200, 0, 1) 2").wrongState("join(0, 2, 0)").calls("join(0, 1, 0) 3");
+        // Reason 5 shows that 195 tons are not too heavy.
+        edge("promises 1 and 3: its own frame, 0 at first").calls("block(0, 1, 0, 195, 0, 1) 0", "whyNot(0) 5",
+                "block(0, 1, 0, 196, 0, 1) 1", "whyNot(1) 4", "block(11, 11, 0, 145, 0, 1) 2", "whyNot(2) 5",
+                "block(11, 11, 0, 146, 0, 1) 3", "whyNot(3) 4");
         // From 103 on 9 of a hundred is drawn, from 72 on 10.
         flawsAtFirst(103, "BAD");
         flawsAtFirst(72, "GOOD");
@@ -97,7 +104,7 @@ public final class EdgesOfTheToldTest {
 
     private static void flawsAtFirst(int x, String due) {
         for (int welder = 0; welder < 4; welder++) {
-            pair("Terms: below the flaws of the welder, 10 at first")
+            pair("promises 1 and 4: below the flaws of the welder, 10 at first")
                     .calls("draw(" + x + ") 1", "join(0, 1, " + welder + ") 2", "test(0) " + due);
         }
     }

@@ -6,7 +6,7 @@ import java.util.Random;
 
 /** Runs of calls from fixed seeds: each answer, thrown or given, is held against that of the Oracle. */
 public final class RandomRunsTest {
-    private static final int RUNS = 400, DEEDS = 400;
+    private static final int RUNS = 200, DEEDS = 300, LATEST_FINISH = 80;
 
     private final Random random;
     private final Yard yard = new Yard();
@@ -48,10 +48,14 @@ public final class RandomRunsTest {
         if (isTame) {
             begin();
         }
+        int finish = random.nextInt(2) == 0 ? random.nextInt(LATEST_FINISH) : DEEDS;
         for (int call = 0; yard.deeds().size() < DEEDS && !isWrong; call++) {
             Call.Kind kind = Call.Kind.values()[random.nextInt(random.nextInt(4) == 0 ? 31 : 15)];
             compare(kind, random.nextInt(8) == 0 ? anyArguments(kind) : arguments(kind));
-            if (call % 16 == 0) {
+            if (call == finish) {
+                finish();
+            }
+            if (call % 20 == 0) {
                 compareAll();
             }
         }
@@ -65,6 +69,26 @@ public final class RandomRunsTest {
         for (int welder = 0; welder < 3; welder++) {
             compare(Call.Kind.WELDER, new int[] {welder, 30 * welder});
         }
+    }
+
+    /** Fills what is open, tests and repairs, and launches, as far as that goes. */
+    private void finish() {
+        compare(Call.Kind.CRANE, new int[] {below(12), 300});
+        for (int cell = 0; cell < 36; cell++) {
+            if (oracle.answer(Call.Kind.CELL, new int[] {cell, 0}) < 0) {
+                compare(Call.Kind.BLOCK, new int[] {cell % 12, cell % 12, cell / 12, 1 + below(12), below(8), 1 + below(8)});
+                compare(Call.Kind.ERECT, new int[] {oracle.blocks.size() - 1, below(3)});
+            }
+        }
+        for (int weld = 0; weld < oracle.welds.size(); weld++) {
+            compare(Call.Kind.TEST, new int[] {weld});
+            if (oracle.welds.get(weld).state == 2) {
+                compare(Call.Kind.REPAIR, new int[] {weld, 0});
+                compare(Call.Kind.TEST, new int[] {weld});
+            }
+        }
+        compareAll();
+        compare(Call.Kind.LAUNCH, new int[] {below(13)});
     }
 
     private void compare(Call.Kind kind, int[] a) {
